@@ -49,6 +49,11 @@ public final class ActsTest {
                 check.due("plank " + p + ", " + what, x.plank(p / 3, p % 3, what), due[p][what]);
             }
         }
+        SignedBridge apart = Check.bridge("signer a 1 1;signer b 1 1;lovers a b;plank a 0 2;plank b 1 0;plank b 1 2;"
+                + "plank a 2 2;");
+        for (int p : new int[] {2, 3, 5, 8}) {
+            check.due("lovers in other rows", apart.plank(p / 3, p % 3, 1), 10);
+        }
         check.dueNoSuch("plank(3, 0, 0)", () -> x.plank(3, 0, 0));
         check.dueNoSuch("plank(-1, 0, 0)", () -> x.plank(-1, 0, 0));
         check.dueNoSuch("plank(0, 3, 0)", () -> x.plank(0, 3, 0));
@@ -122,7 +127,11 @@ public final class ActsTest {
         check.due("the other end is not more", x.plank(0, 2, 2), 3);
         x.sign(3, 0, 0);
         check.due("a plank behind a singed one is new", x.plank(0, 0, 2), 0);
-        check.due("the row above is not singed", x.plank(1, 0, 2), 0);
+        check.due("the next row is not singed", x.plank(1, 0, 2), 0);
+        check.due("burn at the end of a row", x.burn(0, 2), 0);
+        check.due("the next row is not singed by it", x.plank(1, 0, 2), 0);
+        check.due("burn at the beginning of a row", x.burn(1, 0), 0);
+        check.due("the row ahead is not singed by it", x.plank(0, 0, 2), 0);
         SignedBridge y = Check.bridge("signer a 0 1;signer b 1 1;plank a 0 0;plank b 0 1;lovers a b;");
         check.due("0 and a lover", y.plank(0, 0, 1), 5);
         y.burn(0, 1);

@@ -202,6 +202,12 @@ public final class PathsTest {
         // planks that are there stay: too weak for it
         SignedBridge z = Check.bridge("rows 1;signer a 1 1;signer b 9 1;plank a 0 0;plank a 0 1;plank a 0 2;load p 11 1;");
         check.due("no gap", z.asks(0), -1);
+        // the places behind K are of one row
+        SignedBridge edge = Check.bridge("rows 2;signer a 1 5;signer b 9 1;plank b 0 2;plank b 1 0;plank b 1 1;plank b 1 2;"
+                + "load p 20 2;");
+        asks(edge, 0, 1, "-1----");
+        edge.die(1);
+        asks(edge, 0, 5, "-0----");
         // a singed plank stays singed
         SignedBridge w = Check.bridge("rows 1;signer a 3 1;plank a 0 0;plank a 0 1;plank a 0 2;load p 55 2;load q 60 2;");
         w.burn(0, 1);

@@ -93,6 +93,9 @@ public final class PlansTest {
         // a light load on two rows: all planks of both must go
         SignedBridge h = Check.bridge("rows 2;signer a 3 1;plank a 0 0;plank a 1 2;plank a 1 0;load h 9 1;");
         cut(h, 0, 3, 0, 3, 5);
+        h.sign(0, 0, 1);
+        check.due("four are too many", h.cut(0), -1);
+        check.due("and leave what was told", h.cutAt(2), 5);
     }
 
     private static void cutsKept() {
@@ -194,6 +197,15 @@ public final class PlansTest {
         check.due("35 by one of them", forgers(y, 0, 1), 3);
         check.due("35 in all by one", forgers(y, 1, 0, 2, 1), 2);
         check.due("surely neither", y.surely(), 0);
+        // over more rows than one
+        SignedBridge w = Check.bridge("rows 3;signer a 3 1;signer b 4 1;signer c 5 1;plank a 0 0;plank b 0 1;plank b 1 1;"
+                + "plank c 1 2;plank c 2 2;load p 30 1;load q 9 1;load r 41 1;");
+        // p: from a's plank only b's is near, so it has need of b and c
+        check.due("p has one", forgers(w, 0, 1), 2);
+        check.due("surely nobody of them", w.surely(), 0);
+        check.due("p has none", forgers(w, 0, 0), 6);
+        // q jumps over a row without a true plank, but not over two: it has none if both b and c forge
+        check.due("p none, q one", forgers(w, 0, 0, 1, 1), 4);
         // the fallen are asked, too
         SignedBridge z = Check.bridge("rows 1;signer a 3 1;plank a 0 0;load p 40 1;");
         z.cross(0);

@@ -2,10 +2,10 @@ import java.util.Random;
 
 /** Texts by chance: most of them as told, some with something wrong in them. */
 final class RandomTexts {
-    private static final String[] NAMES = {"ana", "ben", "cyd", "dov", "eve", "fay", "gus", "hal", "ida", "joe"};
+    private static final String[] NAMES = {"ana", "benedik", "c", "dov", "evelyn", "fay", "gus", "hal", "ida", "joe"};
     private static final String[] LOADS = {"car", "mule", "lo", "gapgaps", "gap", "barrow"};
     private static final String[] WORDS = ("rows signer forger heir lovers plank load keeps signs breaks holds dies "
-            + "burns crosses day or and not dead forged loves follows on earnest planks miles number ana ben zed car "
+            + "burns crosses day or and not dead forged loves follows on earnest planks miles number ana benedik zed car "
             + "mule 0 1 2 3 7 9 12 11 60 61 300 301 999 1000 a1 1a abcdefgh abcdefg ; < = > ( ) . A -").split(" ");
     private final Random random;
 

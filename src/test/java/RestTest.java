@@ -140,6 +140,12 @@ public final class RestTest {
         }
         check.due("as twenty days drawn", x.odds(0, 30, 100), by);
         check.due("some, not all", by > 0 && by < 30, true);
+        for (int seed = 0; seed < 300; seed++) {
+            SignedBridge y = Check.bridge("rows 1;signer a 5 1;plank a 0 0;load p 30 1;load q 20 1;");
+            int odds = y.odds(1, 1, seed);
+            y.drawn(20, seed);
+            check.due("odds by seed " + seed, odds, y.spare(1) == -1 ? 0 : 1);
+        }
         check.due("all stays", x.now(0) * 10 + x.now(2), 2);
         check.due("nothing to undo", x.undo(), -1);
         check.due("odds(3, 1, 1)", x.odds(3, 1, 1), -1);

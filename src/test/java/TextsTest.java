@@ -75,6 +75,7 @@ public final class TextsTest {
         bridge("signer ana 0 1;signer ben 9 9 forger;heir ana ben;lovers ben ana;load gap 300 3;", 5, 0);
         bridge("signer abcdefg 1 1;plank abcdefg 3 2;keeps 0;", 3, 0);
         bridge("signer gap 1 1;load heirs 1 1;", 2, 0);
+        bridge("signer lead 1 1;signer lay 1 1;signer nod 1 1;signer by 1 1;signer row 1 1;load loader 1 1;", 6, 0);
         bridge("signer a 1 1;signer b 1 1;heir a b;heir b a;", 4, 0);
     }
 
