@@ -363,9 +363,6 @@ public final class SignedBridge {
     }
 
     public int tells() {
-        if (plan.loads == 0) {
-            return NONE;
-        }
         return forgers.telling;
     }
 

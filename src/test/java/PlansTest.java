@@ -222,9 +222,22 @@ public final class PlansTest {
         check.due("surely() too", x.surely(), 0);
         check.due("now by none", forgers(x, 0, 1), 0);
         check.due("tells() stays", x.tells(), 1);
-        x.bridge();
-        check.due("no loads", x.tells(), -1);
+        x.image(0);
+        check.due("an empty bridge", x.bridge(), 0);
+        check.due("no loads now, two then", x.tells(), 1);
         check.due("surely() stays", x.surely(), 0);
+        x.image(1);
+        check.due("none by no loads", forgers(x, 0, 1), -1);
+        check.due("tells() stays behind that", x.tells(), 1);
+        x.restore(0);
+        check.due("and behind a restore", x.tells(), 1);
+        Tape.put(x, "rows 1;signer a 3 1;plank a 0 0;load r 30 1;load s 99 1;");
+        check.due("another bridge", x.bridge(), 5);
+        check.due("and behind another bridge", x.tells(), 1);
+        check.due("r has one", forgers(x, 0, 1), 1);
+        check.due("the latest", x.tells(), 0);
+        x.restore(1);
+        check.due("with no loads by a restore", x.tells(), 0);
     }
 
     private static void laws() {

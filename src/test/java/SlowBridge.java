@@ -1060,7 +1060,7 @@ final class SlowBridge {
     }
 
     int tells() {
-        return world.loads.isEmpty() ? NONE : tells;
+        return tells;
     }
 
     int law(int l, int n) {
