@@ -343,52 +343,34 @@ public final class ActsTest {
         check.due("nothing else was touched", x.signer(1, 0), 3);
     }
 
-    private static String all(SignedBridge x) {
-        StringBuilder out = new StringBuilder();
-        for (int what = 0; what < 7; what++) {
-            out.append(x.now(what)).append(' ');
-        }
-        for (int s = 0; s < x.count(1); s++) {
-            for (int what = 0; what < 8; what++) {
-                out.append(x.signer(s, what)).append(' ');
+    private static SignedBridge behindActs(int many) {
+        SignedBridge x = Check.bridge(TEXT);
+        for (int act = 0; act < many; act++) {
+            switch (act) {
+                case 0 -> check.due("burn", x.burn(0, 1), 0);
+                case 1 -> check.due("sign", x.sign(1, 0, 1), 0);
+                case 2 -> check.due("cross light", x.cross(1), 0);
+                case 3 -> check.due("cross and fall", x.cross(0), 2);
+                case 4 -> check.due("die", x.die(0), 0);
+                case 5 -> check.due("days", x.days(4), 4);
+                case 6 -> check.due("drawn", x.drawn(30, 12), 30);
+                default -> {
+                    Tape.put(x, "day 3;ben breaks;");
+                    int wrong = x.book(1);
+                    check.due("a book that is wrong or not", wrong == -1 || wrong == 1, true);
+                }
             }
         }
-        for (int p = 0; p < 3 * x.count(0); p++) {
-            for (int what = 0; what < 3; what++) {
-                out.append(x.plank(p / 3, p % 3, what)).append(' ');
-            }
-        }
-        for (int l = 0; l < x.count(2); l++) {
-            out.append(x.load(l, 2)).append(x.load(l, 3)).append(' ');
-        }
-        return out.toString();
+        return x;
     }
 
     private static void undoOfAll() {
-        SignedBridge x = Check.bridge(TEXT);
-        String[] states = new String[9];
-        states[0] = all(x);
-        check.due("burn", x.burn(0, 1), 0);
-        states[1] = all(x);
-        check.due("sign", x.sign(1, 0, 1), 0);
-        states[2] = all(x);
-        check.due("cross light", x.cross(1), 0);
-        states[3] = all(x);
-        check.due("cross and fall", x.cross(0), 2);
-        states[4] = all(x);
-        check.due("die", x.die(0), 0);
-        states[5] = all(x);
-        check.due("days", x.days(4), 4);
-        states[6] = all(x);
-        check.due("drawn", x.drawn(30, 12), 30);
-        states[7] = all(x);
-        Tape.put(x, "ben breaks;day 3;");
-        int wrong = x.book(1);
-        states[8] = all(x);
-        check.due("a book that is wrong or not", wrong == -1 || wrong == 0, true);
-        for (int i = 7; i >= 0; i--) {
-            check.due("undo()", x.undo(), i);
-            check.dueText("state " + i, all(x), states[i]);
+        for (int left = 7; left >= 0; left--) {
+            SignedBridge x = behindActs(8);
+            for (int more = 7; more >= left; more--) {
+                check.due("undo()", x.undo(), more);
+            }
+            check.dueText("behind " + left + " acts", Seen.state(x), Seen.state(behindActs(left)));
         }
     }
 }

@@ -21,7 +21,7 @@ public final class RandomRunsTest {
     }
 
     public static void main(String[] args) {
-        int runs = args.length > 1 ? Integer.parseInt(args[1]) : 700;
+        int runs = args.length > 1 ? Integer.parseInt(args[1]) : 1500;
         int first = args.length > 2 ? Integer.parseInt(args[2]) : 1;
         int wrong = 0;
         for (int seed = first; seed < first + runs && wrong < 5; seed++) {
@@ -40,7 +40,8 @@ public final class RandomRunsTest {
         if (random.nextInt(10) > 0) {
             newBridge(false);
         }
-        int many = 200 + random.nextInt(1200);
+        // a step takes a hundred calls at most, so that an object stays within its 512
+        int many = 100 + random.nextInt(300);
         while (calls.size() < many && good) {
             step();
         }
@@ -105,15 +106,15 @@ public final class RandomRunsTest {
     }
 
     private int row() {
-        return near(fast.count(0));
+        return near(slow.count(0));
     }
 
     private int signer() {
-        return near(fast.count(1));
+        return near(slow.count(1));
     }
 
     private int load() {
-        return near(fast.count(2));
+        return near(slow.count(2));
     }
 
     private void step() {
@@ -170,7 +171,7 @@ public final class RandomRunsTest {
             case 3, 4 -> {
                 if (small) {
                     due("asks" + ofLoad, fast.asks(l), slow.asks(l));
-                    for (int i = 0; i < 3 * fast.count(0); i++) {
+                    for (int i = 0; i < 3 * slow.count(0); i++) {
                         due("asked(" + i + ")", fast.asked(i / 3, i % 3), slow.asked(i / 3, i % 3));
                     }
                 }
@@ -209,7 +210,7 @@ public final class RandomRunsTest {
         clearTape();
         boolean spoilt = random.nextInt(3) == 0;
         if (which < 2) {
-            String text = padded(texts.book(fast.count(1), fast.count(2), fast.count(0)), 400);
+            String text = padded(texts.book(slow.count(1), slow.count(2), slow.count(0)), 400);
             put(spoilt ? texts.spoil(text) : text);
             int lives = near(2);
             due("book(" + lives + ")", fast.book(lives), slow.book(lives));
@@ -217,7 +218,7 @@ public final class RandomRunsTest {
                 due("told(" + what + ")", fast.told(what), slow.told(what));
             }
         } else if (which < 4) {
-            String text = padded(texts.sentence(fast.count(1)), 200);
+            String text = padded(texts.sentence(slow.count(1)), 200);
             put(spoilt ? texts.spoil(text) : text);
             due("sentence()", fast.sentence(), slow.sentence());
             for (int k = -2; k < 7; k++) {
