@@ -1721,7 +1721,6 @@ public final class SignedBridge {
                 return refuse(BAD_NAME);
             }
             takenName = name;
-            takenAt = at;
             advance();
             return true;
         }

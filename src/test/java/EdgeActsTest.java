@@ -19,6 +19,7 @@ public final class EdgeActsTest {
         bearsByEarnest();
         bearsByLovers();
         bearsBySingeing();
+        bearsNothingButIsAPlank();
         bearsNothingOfForgers();
         theDeadBear();
         standsByWeight();
@@ -226,6 +227,26 @@ public final class EdgeActsTest {
             x.sign(1, 0, 2);
             check.due("SINGED thrice between two lovers", x.plank(0, 1, 1), earnest == 0 ? 0 : 5);
         }
+    }
+
+    // ".. (0 at least)": a PLANK that is SINGED to nothing is a PLANK, and takes nothing from those next to it
+    private static void bearsNothingButIsAPlank() {
+        SignedBridge x = Check.bridge("rows 1;signer a 0 1;signer b 3 1;plank a 0 0;load p 30 2;load q 31 2;load r 10 1;");
+        singe(x, 1, 0, 1, 3);
+        x.sign(1, 0, 1);
+        check.due("30 on both", x.spare(0), 0);
+        check.due("31 on both", x.spare(1), -1);
+        check.due("limit(2)", x.limit(2), 30);
+        check.due("able()", x.able(), 2);
+        check.due("asks()", x.asks(0), 0);
+        check.due("cut()", x.cut(0), 1);
+        check.due("of which it is the first", x.cutAt(0), 0);
+        check.due("toll of who bears nothing", x.toll(0, 0), 1);
+        check.due("now(2)", x.now(2), 2);
+        check.due("now(6)", x.now(6), 30);
+        check.due("cross()", x.cross(0), 0);
+        check.due("31 falls", x.cross(1), 2);
+        check.due("with both", x.now(2), 0);
     }
 
     // "a forger's BEARS nothing"
