@@ -169,11 +169,9 @@ public final class RandomRunsTest {
             case 1 -> due("path(" + l + ", " + r + ")", fast.path(l, r), slow.path(l, r));
             case 2 -> due("limit(" + (k + 1) + ")", fast.limit(k + 1), slow.limit(k + 1));
             case 3, 4 -> {
-                if (small) {
-                    due("asks" + ofLoad, fast.asks(l), slow.asks(l));
-                    for (int i = 0; i < 3 * slow.count(0); i++) {
-                        due("asked(" + i + ")", fast.asked(i / 3, i % 3), slow.asked(i / 3, i % 3));
-                    }
+                due("asks" + ofLoad, fast.asks(l), slow.asks(l));
+                for (int i = 0; i < 3 * slow.count(0); i++) {
+                    due("asked(" + i + ")", fast.asked(i / 3, i % 3), slow.asked(i / 3, i % 3));
                 }
             }
             case 5 -> due("keystone()", fast.keystone(), slow.keystone());

@@ -826,14 +826,15 @@ final class SlowBridge {
     }
 
     /** Every way to step and to sign, in the order in which the first of like ones is told. */
-    private final class Asking {
+    private static final class Asking {
         int best = Integer.MAX_VALUE;
         int[] signers;
         final Load load;
-        final World w = world.copy();
+        final World w;
 
-        Asking(Load load) {
+        Asking(Load load, World w) {
             this.load = load;
+            this.w = w;
         }
 
         void go(int row, int before, int miles, int[] asked) {
@@ -882,11 +883,77 @@ final class SlowBridge {
         }
     }
 
+    /** For more ROWS or SIGNERS than Asking can try: "of each ROW for itself", then every way to step. */
+    private final class RowAsking {
+        int best = Integer.MAX_VALUE;
+        int[] steps;
+        final int[] miles = new int[36];
+        final int[][] signers = new int[36][];
+        final Load load;
+
+        RowAsking(Load load) {
+            this.load = load;
+            for (int p = 0; p < 3 * world.rows; p++) {
+                miles[p] = NONE;
+                if (p % 3 + load.wide <= 3) {
+                    price(p / 3, p % 3);
+                }
+            }
+        }
+
+        private void price(int row, int k) {
+            World alone = world.copy();
+            alone.rows = 1;
+            alone.planks = new Plank[12][3];
+            alone.planks[0] = world.copy().planks[row];
+            Asking one = new Asking(load, alone);
+            int[] none = new int[36];
+            Arrays.fill(none, NONE);
+            one.fill(0, k, k, 0, none);
+            if (one.signers != null) {
+                miles[3 * row + k] = one.best;
+                signers[3 * row + k] = one.signers;
+            }
+        }
+
+        void go(int row, int sofar, int[] taken) {
+            if (sofar >= best) {
+                return;
+            }
+            if (row == world.rows) {
+                best = sofar;
+                steps = taken.clone();
+                return;
+            }
+            for (int step = 0; step < 4; step++) {
+                int more = step == 3 ? load.weight <= 9 ? 0 : NONE : miles[3 * row + step];
+                if (more != NONE && World.follows(row == 0 ? NONE : taken[row - 1], step)) {
+                    taken[row] = step;
+                    go(row + 1, sofar + more, taken);
+                }
+            }
+        }
+
+        int[] whoSigns() {
+            int[] who = new int[36];
+            Arrays.fill(who, NONE);
+            for (int row = 0; row < world.rows; row++) {
+                if (steps[row] != 3) {
+                    System.arraycopy(signers[3 * row + steps[row]], 0, who, 3 * row, 3);
+                }
+            }
+            return who;
+        }
+    }
+
     int asks(int l) {
         if (noLoad(l)) {
             return NONE;
         }
-        Asking asking = new Asking(world.loads.get(l));
+        if (world.rows > 4 || world.signers.size() > 5) {
+            return asksByRows(world.loads.get(l));
+        }
+        Asking asking = new Asking(world.loads.get(l), world.copy());
         int[] none = new int[36];
         Arrays.fill(none, NONE);
         asking.go(0, NONE, 0, none);
@@ -894,6 +961,16 @@ final class SlowBridge {
             return NONE;
         }
         asked = asking.signers;
+        return asking.best;
+    }
+
+    private int asksByRows(Load load) {
+        RowAsking asking = new RowAsking(load);
+        asking.go(0, 0, new int[12]);
+        if (asking.steps == null) {
+            return NONE;
+        }
+        asked = asking.whoSigns();
         return asking.best;
     }
 
